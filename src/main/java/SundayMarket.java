@@ -113,14 +113,14 @@ public final class SundayMarket {
     }
 
     public int read() {
-        trial.takeOver(now);
+        trial.copyTown(now);
         boolean isWell = tape.tell(trial);
         int end = tape.place;
         tape.wipe();
         if (!isWell) {
             return FIRST_FAULT - end;
         }
-        now.takeOver(trial);
+        now.copyTown(trial);
         past.forget();
         return now.people;
     }
@@ -262,7 +262,7 @@ public final class SundayMarket {
         if (!isFlag(what)) {
             return BAD;
         }
-        trial.takeOver(now);
+        trial.copyTown(now);
         int sales = 0;
         int sale = trial.bestSale();
         while (sale != NONE && sales < MOST_SALES) {
@@ -376,8 +376,8 @@ public final class SundayMarket {
     }
 
     public int image() {
-        kept.takeOver(now);
-        keptPast.takeOver(past);
+        kept.copyTown(now);
+        keptPast.copyPast(past);
         isKept = true;
         return 1;
     }
@@ -386,8 +386,8 @@ public final class SundayMarket {
         if (!isKept) {
             return NONE;
         }
-        now.takeOver(kept);
-        past.takeOver(keptPast);
+        now.copyTown(kept);
+        past.copyPast(keptPast);
         return 1;
     }
 
@@ -612,7 +612,7 @@ public final class SundayMarket {
         int harvest = 0;
         int draw = 1;
 
-        void takeOver(Goods other) {
+        void copyGoods(Goods other) {
             System.arraycopy(other.many, 0, many, 0, MOST_PEOPLE * HALVES);
             System.arraycopy(other.sets, 0, sets, 0, MOST_PEOPLE);
             System.arraycopy(other.chalk, 0, chalk, 0, MOST_PEOPLE);
@@ -661,10 +661,10 @@ public final class SundayMarket {
             }
         }
 
-        void takeOver(Past other) {
+        void copyPast(Past other) {
             known = other.known;
             for (int i = 0; i < known; i++) {
-                rows[i].takeOver(other.rows[i]);
+                rows[i].copyGoods(other.rows[i]);
             }
         }
 
@@ -676,7 +676,7 @@ public final class SundayMarket {
             if (known == MOST_UNDONE) {
                 loseOldest();
             }
-            rows[known].takeOver(goods);
+            rows[known].copyGoods(goods);
             known++;
         }
 
@@ -692,7 +692,7 @@ public final class SundayMarket {
         void bringBack(Goods goods) {
             if (known > 0) {
                 known--;
-                goods.takeOver(rows[known]);
+                goods.copyGoods(rows[known]);
             }
         }
     }
@@ -705,12 +705,12 @@ public final class SundayMarket {
         final int[] loves = new int[MOST_PEOPLE];
         final Goods goods = new Goods();
 
-        void takeOver(Town other) {
+        void copyTown(Town other) {
             people = other.people;
             fewest = other.fewest;
             System.arraycopy(other.kinds, 0, kinds, 0, MOST_PEOPLE);
             System.arraycopy(other.loves, 0, loves, 0, MOST_PEOPLE);
-            goods.takeOver(other.goods);
+            goods.copyGoods(other.goods);
         }
 
         boolean isOne(int n) {
