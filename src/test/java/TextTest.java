@@ -2,7 +2,7 @@ import java.util.Random;
 
 /** Promise 9: markets as texts, and their faults, against the grammar as a pattern and by hand. */
 public final class TextTest {
-    private static final String LETTERS = ".whb;pfolr0123456789>-+,abcdefghijkl mZ~";
+    private static final String LETTERS = ".whb;pfolr0123456789>-+,abcdefghijkl mZ~`/:";
 
     public static void main(String[] args) {
         faults();
@@ -54,6 +54,10 @@ public final class TextTest {
         read("......;p9-", -30);
         read("......;p9-+", -30);
         read("......;p9-m", -30);
+        read("......;p9-`", -30);
+        read("......;p9-`a", -30);
+        read("......;p9/", -29);
+        read("......;p9:", -29);
         read("......;p9-aa", -31);
         read("......;p9-ba", -31);
         read("......;p9-a b", 1);
