@@ -14,6 +14,7 @@ public final class EdgesTextTest {
         blanks();
         nobodyNamed();
         effects();
+        olderTapes();
         Due.end();
     }
 
@@ -231,6 +232,27 @@ public final class EdgesTextTest {
             of 0 4 = 12
             of 1 4 = 0
             of 2 4 = 24
+            """);
+    }
+
+    private static void olderTapes() {
+        Run.run("9: THE TAPE is empty then: what a longer one told is gone", """
+            text '......;p99,p9' = 2
+            text '......;p1' = 1
+            of 0 2 = 1
+            text '......;p9-ab+cd,p9' = 2
+            text '......;p9-a' = 1
+            of 0 3 = 4094
+            text '......;p9,p9>1' = 2
+            text '......;p9,' = -30
+            text '......;p' = -28
+            text '......' = -26
+            """);
+        Run.run("9: a number at the very end of a full tape", "text '" + " ".repeat(91) + "......;p9' = 1\n" + """
+            of 0 2 = 9
+            """);
+        Run.run("9: two digits at the very end of a full tape", "text '" + " ".repeat(90) + "......;p98' = 1\n" + """
+            of 0 2 = 98
             """);
     }
 }
