@@ -9,6 +9,7 @@ public final class DeedsTest {
         drift();
         driftWithoutPeople();
         undo();
+        undoLeaves();
         undoKnowsEight();
         seed();
         Due.end();
@@ -105,7 +106,7 @@ public final class DeedsTest {
     }
 
     private static void drift() {
-        SundayMarket x = Due.market(".wh.bw;p30>1,f8-bd,o60-acdf+l,l5>2-g+hi,r44-ek");
+        SundayMarket x = drifted(0);
         Due.due("15: drift(0)", x.drift(0), SundayMarket.BAD);
         Due.due("15: drift(41)", x.drift(41), SundayMarket.BAD);
         Due.due("15: drift(-1)", x.drift(-1), SundayMarket.BAD);
@@ -113,31 +114,39 @@ public final class DeedsTest {
         int sold = 0;
         for (int i = 0; i < 60; i++) {
             draw = (draw * 1103515245L + 12345L) & 0x7fffffffL;
-            int seller = (int) (draw / 65536 % 5);
-            int buyer = (int) (draw / 1024 % 5);
-            int half = (int) (draw / 128 % 12);
-            SundayMarket y = Due.market(".wh.bw;p30>1,f8-bd,o60-acdf+l,l5>2-g+hi,r44-ek");
-            // A second object makes the same way by sales one asks for; drifts of one step each get it where x is.
-            for (int k = 0; k < i; k++) {
-                y.drift(1);
-            }
-            int price = y.middle(seller, buyer, half);
-            int answer = y.sell(seller, buyer, half, Math.max(0, price));
-            sold += answer >= 0 ? 1 : 0;
-            Due.due("15: drift(1)", x.drift(1), y.count(4));
-            Due.due("15: the draw", x.seed(0), draw);
-            x.seed((int) draw);
-            for (int one = 0; one < 5; one++) {
-                for (int what = 2; what < 6; what++) {
-                    Due.due("15: of(" + one + ", " + what + ")", x.of(one, what), y.of(one, what));
-                }
-            }
+            sold += isSoldByDrift(i, draw) ? 1 : 0;
         }
         Due.due("15: something is sold, and something is not", sold > 5 && sold < 55 ? 1 : 0, 1);
-        SundayMarket z = Due.market(".wh.bw;p30>1,f8-bd,o60-acdf+l,l5>2-g+hi,r44-ek");
-        z.drift(20);
-        Due.due("15: at once", z.drift(40), x.count(4));
-        Due.due("15: eight may be undone", z.count(6), 8);
+        x.drift(20);
+        Due.due("15: at once", x.drift(40), drifted(60).count(4));
+        Due.due("15: eight may be undone", x.count(6), 8);
+    }
+
+    private static SundayMarket drifted(int times) {
+        SundayMarket x = Due.market(".wh.bw;p30>1,f8-bd,o60-acdf+l,l5>2-g+hi,r44-ek");
+        for (int i = 0; i < times; i++) {
+            x.drift(1);
+        }
+        return x;
+    }
+
+    /** One time more behind so many, held against a second object where the same sale is asked for. */
+    private static boolean isSoldByDrift(int times, long draw) {
+        int seller = (int) (draw / 65536 % 5);
+        int buyer = (int) (draw / 1024 % 5);
+        int half = (int) (draw / 128 % 12);
+        SundayMarket x = drifted(times);
+        SundayMarket y = drifted(times);
+        int price = y.middle(seller, buyer, half);
+        int answer = y.sell(seller, buyer, half, Math.max(0, price));
+        Due.due("15: drift(1)", x.drift(1), y.count(4));
+        Due.due("15: the draw", x.seed(0), draw);
+        for (int one = 0; one < 5; one++) {
+            for (int what = 2; what < 6; what++) {
+                Due.due("15: of(" + one + ", " + what + ")", x.of(one, what), y.of(one, what));
+            }
+        }
+        return answer >= 0;
     }
 
     private static void driftWithoutPeople() {
@@ -154,28 +163,31 @@ public final class DeedsTest {
     }
 
     private static void undo() {
-        SundayMarket x = Due.market("......;p20,p30,l9");
+        SundayMarket x = afterDeeds(0);
         Due.due("16: none", x.undo(), SundayMarket.NONE);
-        x.seed(9);
-        String[] views = new String[7];
-        views[0] = Due.view(x);
-        x.sell(0, 1, 3, 7);
-        views[1] = Due.view(x);
-        x.seize(1, 2);
-        views[2] = Due.view(x);
-        x.give(2, 0, 4);
-        views[3] = Due.view(x);
-        x.make(4, 0, 1);
-        views[4] = Due.view(x);
-        x.make(4, 1, 1);
-        views[5] = Due.view(x);
-        x.drift(1);
+        x = afterDeeds(6);
         for (int left = 5; left >= 0; left--) {
             x.seed(1000 + left);
             Due.due("16: undo", x.undo(), left);
-            Due.same("16: as ahead of it, the draw too", Due.view(x), views[left]);
+            Due.same("16: as ahead of it, the draw too", Due.view(x), Due.view(afterDeeds(left)));
         }
         Due.due("16: none is left", x.undo(), SundayMarket.NONE);
+    }
+
+    /** The first of six deeds, one of each sort. */
+    private static SundayMarket afterDeeds(int n) {
+        SundayMarket x = Due.market("......;p20,p30,l9");
+        x.seed(9);
+        for (int i = 0; i < n; i++) {
+            int answer = i == 0 ? x.sell(0, 1, 3, 7) : i == 1 ? x.seize(1, 2) : i == 2 ? x.give(2, 0, 4)
+                : i == 3 ? x.make(4, 0, 1) : i == 4 ? x.make(4, 1, 1) : x.drift(1);
+            Due.due("16: deed " + i + " is done", answer >= 0 ? 1 : 0, 1);
+        }
+        return x;
+    }
+
+    private static void undoLeaves() {
+        SundayMarket x = Due.market("......;p20,p30,l9");
         x.make(0, 0, 1);
         x.love(2, 0);
         x.least(7);

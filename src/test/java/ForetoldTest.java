@@ -15,6 +15,7 @@ public final class ForetoldTest {
         hands();
         rain();
         image();
+        latestImage();
         nothingIsChanged();
         Due.end();
     }
@@ -284,6 +285,11 @@ public final class ForetoldTest {
         Due.due("30: the rain", x.at(0, 0), 0);
         Due.due("30: again", x.restore(), 1);
         Due.same("30: as it was, again", Due.view(x), before);
+    }
+
+    private static void latestImage() {
+        SundayMarket x = Due.market(FIVE);
+        x.image();
         x.person(0);
         String later = Due.view(x);
         x.image();

@@ -56,7 +56,12 @@ public final class ModelTest {
     }
 
     private void typeText() throws ReflectiveOperationException {
-        for (char letter : TextTest.text(random).toCharArray()) {
+        String text = TextTest.text(random);
+        // Of calls beyond the last one nothing is promised.
+        if (made + text.length() + 1 > CALLS) {
+            return;
+        }
+        for (char letter : text.toCharArray()) {
             call(named("type"), new Object[] {(int) letter});
         }
         call(named("read"), new Object[0]);

@@ -106,7 +106,7 @@ final class Run {
         }
     }
 
-    private static int answer(String told) {
+    static int answer(String told) {
         return NAMES.containsKey(told) ? NAMES.get(told) : Integer.parseInt(told);
     }
 
@@ -166,7 +166,7 @@ final class Run {
         }
     }
 
-    private static int call(SundayMarket x, String told) {
+    static int call(SundayMarket x, String told) {
         String[] words = told.split(" +");
         for (Method method : SundayMarket.class.getMethods()) {
             if (method.getName().equals(words[0]) && method.getParameterCount() == words.length - 1) {

@@ -42,7 +42,7 @@ public final class SheetsTest {
         for (int half = 0; half < 12; half++) {
             x.item(0, 2, half, 0);
         }
-        Due.due("31: a half it has not is 0 by all kinds", x.told(0, 0, 2, 3, 1, 0), 16);
+        Due.due("31: a morning that it has is worth nothing to a ringer alone", x.told(0, 0, 2, 3, 1, 0), 16);
         SundayMarket y = Due.market("......;o9-ab,p9");
         y.sheet(0, 0, 3);
         Due.due("31: all kinds", y.told(0, 0, 0, 0, 2, 0), 31);
